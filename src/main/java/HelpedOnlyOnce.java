@@ -23,14 +23,18 @@ public final class HelpedOnlyOnce {
     private static final int LAST_NEED_YEAR = 9;
     private static final int LAST_YEAR = 99;
     private static final int LAST_PLACE = 99;
+    private static final int PLACE_STEP = 10;
     private static final int HELPS = 4;
     private static final int REFUSALS = 6;
+    private static final int REFUSALS_FROM = 10;
+    private static final int LAST_LETTER = 255;
 
-    // 30 years of LASTS bring seven helps each; they stand behind those of the book in mind
-    private static final int MOST_IN_MIND = 300;
     private static final int LASTS_YEARS = 30;
+    // in mind the book has no end: LASTS writes a help a year for each one behind those that are there
+    private static final int MOST_IN_MIND = MOST_HELPS + LASTS_YEARS * MOST_PEOPLE;
     private static final int LASTS_GRAVE = 5;
-    private static final int WORTH_GRAVE = 9;
+    private static final int MOST_GRAVE = 9;
+    private static final int MOST_HANDS = 3;
     private static final int STRANGER_TIMES = 3;
     private static final int SEEDS_YEARS = 10;
     private static final int SEEDS_NEEDS = 3;
@@ -48,6 +52,7 @@ public final class HelpedOnlyOnce {
     private static final int NURSE = 5;
     private static final int SHY = 6;
     private static final int SHY_MINUTES = 20;
+    private static final int MINUTES_LESS_ONE = 10;
     private static final int OLD_LESS = 5;
     private static final int NURSE_MORE = 3;
 
@@ -74,9 +79,10 @@ public final class HelpedOnlyOnce {
     private static final int OUT = 3;
     private static final int SETTINGS = 4;
 
-    private static final int LAW_ONE = 1;
-    private static final int LAW_YEARS = 2;
-    private static final int LAW_SMALL = 3;
+    private static final int BOTH = 0;
+    private static final int ONE = 1;
+    private static final int YEARS = 2;
+    private static final int SMALL = 3;
 
     private static final int NEAR = 0;
     private static final int SKILLED = 1;
@@ -102,7 +108,7 @@ public final class HelpedOnlyOnce {
         if (letter < 0) {
             return refuse(BELOW);
         }
-        if (letter > 255 || letters.isFull()) {
+        if (letter > LAST_LETTER || letters.isFull()) {
             return refuse(ROOM);
         }
         return letters.take(letter);
@@ -139,7 +145,10 @@ public final class HelpedOnlyOnce {
         if (what < 0 || what >= NEED_COLUMNS) {
             return refuse(OTHER);
         }
-        return what == HELPED_BY ? now.haveHelped(need) : now.ofNeed(need, what);
+        if (what == HELPED_BY) {
+            return now.ofNeed(need, HANDS) - now.handsLeft(need);
+        }
+        return now.ofNeed(need, what);
     }
 
     public int set(int what, int v) {
@@ -333,7 +342,7 @@ public final class HelpedOnlyOnce {
         if (n > MANY_TIMES) {
             return refuse(ROOM);
         }
-        return law == LAW_ONE ? n + 1 : 2 * n + 1;
+        return law == ONE ? n + 1 : 2 * n + 1;
     }
 
     public int move(int person, int place) {
@@ -357,7 +366,7 @@ public final class HelpedOnlyOnce {
         }
         int best = 0;
         int greatest = -1;
-        for (int place = 0; place <= 90; place += 10) {
+        for (int place = 0; place <= LAST_PLACE; place += PLACE_STEP) {
             mind.copyFrom(now);
             mind.putPerson(person, PLACE, place);
             int sum = runSum(mind, SKILLED, 0);
@@ -381,7 +390,7 @@ public final class HelpedOnlyOnce {
         int greatest = -1;
         for (int size = 0; size <= greatestSetting(SIZE); size++) {
             mind.copyFrom(now);
-            mind.settle(LAW, LAW_SMALL);
+            mind.settle(LAW, SMALL);
             mind.settle(SIZE, size);
             int sum = runSum(mind, SKILLED, 0);
             if (sum > greatest) {
@@ -456,8 +465,8 @@ public final class HelpedOnlyOnce {
     }
 
     public int count(int what) {
-        if (what > 10 && what <= 10 + REFUSALS) {
-            return refused[what - 10];
+        if (what > REFUSALS_FROM && what <= REFUSALS_FROM + REFUSALS) {
+            return refused[what - REFUSALS_FROM];
         }
         switch (what) {
             case 0:
@@ -501,7 +510,7 @@ public final class HelpedOnlyOnce {
     }
 
     private static boolean isLaw(int law) {
-        return law >= 0 && law <= LAW_SMALL;
+        return law >= BOTH && law <= SMALL;
     }
 
     private static int leastSetting(int what) {
@@ -509,7 +518,7 @@ public final class HelpedOnlyOnce {
     }
 
     private static int greatestSetting(int what) {
-        return what == LAW ? LAW_SMALL : 9;
+        return what == LAW ? SMALL : 9;
     }
 
     private int chosenBy(Town town, int rule, int need) {
@@ -551,7 +560,7 @@ public final class HelpedOnlyOnce {
         return false;
     }
 
-    // every RULE chooses where something is least; the greatest GOOD is the least of what is below none
+    // all RULES choose where a price is least, so GOOD, of which the greatest is wanted, stands below none
     private static int priceBy(Town town, int rule, int helper, int need) {
         switch (rule) {
             case SKILLED:
@@ -593,7 +602,7 @@ public final class HelpedOnlyOnce {
 
     private Town mindWithHelp(int helper, int helped) {
         mind.copyFrom(now);
-        mind.write(helper, helped, WORTH_GRAVE, NO_NEED);
+        mind.write(helper, helped, MOST_GRAVE, NO_NEED);
         return mind;
     }
 
@@ -618,7 +627,7 @@ public final class HelpedOnlyOnce {
             z = nextSeed(z);
             int help = draw(z, HELPS);
             z = nextSeed(z);
-            town.putOnlyNeed(who, help, 1 + draw(z, 9));
+            town.putOnlyNeed(who, help, 1 + draw(z, MOST_GRAVE));
             int helper = chosenBy(town, rule, 0);
             if (helper >= 0) {
                 sum += town.goodOf(helper, 0);
@@ -656,22 +665,22 @@ public final class HelpedOnlyOnce {
 
     /** All that an image holds; one stands for now, one for what is only thought, one for the image. */
     private static final class Town {
-        final int[] ofPeople = new int[MOST_PEOPLE * PERSON_COLUMNS];
+        final int[] personTable = new int[MOST_PEOPLE * PERSON_COLUMNS];
         int people;
-        final int[] ofNeeds = new int[MOST_NEEDS * NEED_COLUMNS];
+        final int[] needTable = new int[MOST_NEEDS * NEED_COLUMNS];
         int needs;
-        final int[] book = new int[MOST_IN_MIND * BOOK_COLUMNS];
+        final int[] bookTable = new int[MOST_IN_MIND * BOOK_COLUMNS];
         int helps;
         final int[] settings = {0, 3, 3, 0};
         int year;
 
         void copyFrom(Town other) {
-            System.arraycopy(other.ofPeople, 0, ofPeople, 0, ofPeople.length);
+            System.arraycopy(other.personTable, 0, personTable, 0, personTable.length);
             people = other.people;
-            System.arraycopy(other.ofNeeds, 0, ofNeeds, 0, ofNeeds.length);
+            System.arraycopy(other.needTable, 0, needTable, 0, needTable.length);
             needs = other.needs;
             int written = Math.max(0, Math.min(other.helps, MOST_IN_MIND)) * BOOK_COLUMNS;
-            System.arraycopy(other.book, 0, book, 0, written);
+            System.arraycopy(other.bookTable, 0, bookTable, 0, written);
             helps = other.helps;
             System.arraycopy(other.settings, 0, settings, 0, settings.length);
             year = other.year;
@@ -689,12 +698,12 @@ public final class HelpedOnlyOnce {
             if (person < 0 || person >= MOST_PEOPLE || what < 0 || what >= PERSON_COLUMNS) {
                 return 0;
             }
-            return ofPeople[person * PERSON_COLUMNS + what];
+            return personTable[person * PERSON_COLUMNS + what];
         }
 
         void putPerson(int person, int what, int v) {
             if (person >= 0 && person < MOST_PEOPLE && what >= 0 && what < PERSON_COLUMNS) {
-                ofPeople[person * PERSON_COLUMNS + what] = v;
+                personTable[person * PERSON_COLUMNS + what] = v;
             }
         }
 
@@ -702,12 +711,12 @@ public final class HelpedOnlyOnce {
             if (need < 0 || need >= MOST_NEEDS || what < 0 || what >= NEED_COLUMNS) {
                 return 0;
             }
-            return ofNeeds[need * NEED_COLUMNS + what];
+            return needTable[need * NEED_COLUMNS + what];
         }
 
         void putNeed(int need, int what, int v) {
             if (need >= 0 && need < MOST_NEEDS && what >= 0 && what < NEED_COLUMNS) {
-                ofNeeds[need * NEED_COLUMNS + what] = v;
+                needTable[need * NEED_COLUMNS + what] = v;
             }
         }
 
@@ -740,11 +749,13 @@ public final class HelpedOnlyOnce {
             if (ofPerson(helper, KIND) == GUEST) {
                 return false;
             }
+            boolean bothWays = settings[LAW] != ONE;
             for (int help = 0; help < helps && help < MOST_IN_MIND; help++) {
                 int at = help * BOOK_COLUMNS;
-                boolean thatWay = book[at + BOOK_HELPER] == helper && book[at + BOOK_HELPED] == helped;
-                boolean otherWay = book[at + BOOK_HELPER] == helped && book[at + BOOK_HELPED] == helper;
-                if ((thatWay || otherWay && settings[LAW] != LAW_ONE) && stillCounts(at)) {
+                int one = bookTable[at + BOOK_HELPER];
+                int other = bookTable[at + BOOK_HELPED];
+                boolean ofPair = one == helper && other == helped || bothWays && one == helped && other == helper;
+                if (ofPair && stillCounts(at)) {
                     return true;
                 }
             }
@@ -752,10 +763,13 @@ public final class HelpedOnlyOnce {
         }
 
         boolean stillCounts(int at) {
-            if (settings[LAW] == LAW_YEARS) {
-                return year - book[at + BOOK_YEAR] < settings[SPAN];
+            if (at < 0 || at + BOOK_COLUMNS > bookTable.length) {
+                return false;
             }
-            return settings[LAW] != LAW_SMALL || book[at + BOOK_GRAVE] >= settings[SIZE];
+            if (settings[LAW] == YEARS) {
+                return year - bookTable[at + BOOK_YEAR] < settings[SPAN];
+            }
+            return settings[LAW] != SMALL || bookTable[at + BOOK_GRAVE] >= settings[SIZE];
         }
 
         boolean mayHelp(int helper, int helped) {
@@ -763,10 +777,6 @@ public final class HelpedOnlyOnce {
                 return false;
             }
             return ofPerson(helper, KIND) != SHY || minutesBetween(helper, helped) <= SHY_MINUTES;
-        }
-
-        int haveHelped(int need) {
-            return Integer.bitCount(ofNeed(need, HELPED_BY));
         }
 
         int handsLeft(int need) {
@@ -794,13 +804,14 @@ public final class HelpedOnlyOnce {
         }
 
         boolean mayHelpWith(int helper, int need) {
-            return isOpen(need) && (ofNeed(need, HELPED_BY) & bitOf(helper)) == 0 && mayHelp(helper, ofNeed(need, WHO));
+            boolean helpedAlready = (ofNeed(need, HELPED_BY) & bitOf(helper)) != 0;
+            return !helpedAlready && isOpen(need) && mayHelp(helper, ofNeed(need, WHO));
         }
 
         int goodOf(int helper, int need) {
             int whole = ofPerson(helper, SKILL + ofNeed(need, HELP)) * ofNeed(need, GRAVE);
             int minutes = minutesBetween(helper, ofNeed(need, WHO));
-            int plain = Math.max(0, whole - minutes / 10);
+            int plain = Math.max(0, whole - minutes / MINUTES_LESS_ONE);
             int doctors = ofNeed(need, HELP) == 0 ? 2 * plain : plain;
             switch (ofPerson(helper, KIND)) {
                 case DOCTOR:
@@ -844,11 +855,11 @@ public final class HelpedOnlyOnce {
                 return;
             }
             int at = helps * BOOK_COLUMNS;
-            book[at + BOOK_HELPER] = helper;
-            book[at + BOOK_HELPED] = helped;
-            book[at + BOOK_YEAR] = year;
-            book[at + BOOK_GRAVE] = grave;
-            book[at + BOOK_NEED] = need;
+            bookTable[at + BOOK_HELPER] = helper;
+            bookTable[at + BOOK_HELPED] = helped;
+            bookTable[at + BOOK_YEAR] = year;
+            bookTable[at + BOOK_GRAVE] = grave;
+            bookTable[at + BOOK_NEED] = need;
             helps++;
         }
 
@@ -858,8 +869,8 @@ public final class HelpedOnlyOnce {
             }
             helps--;
             int at = helps * BOOK_COLUMNS;
-            int need = book[at + BOOK_NEED];
-            putNeed(need, HELPED_BY, ofNeed(need, HELPED_BY) & ~bitOf(book[at + BOOK_HELPER]));
+            int need = bookTable[at + BOOK_NEED];
+            putNeed(need, HELPED_BY, ofNeed(need, HELPED_BY) & ~bitOf(bookTable[at + BOOK_HELPER]));
         }
 
         static int bitOf(int helper) {
@@ -873,7 +884,7 @@ public final class HelpedOnlyOnce {
      */
     private static final class Search {
         // a slot is overwritten by the next one that falls on it, so that the rows never grow
-        static final int SLOT_BITS = 11;
+        static final int SLOT_BITS = 10;
 
         final int[] needOfHand = new int[MOST_SEARCHED];
         int hands;
@@ -901,15 +912,15 @@ public final class HelpedOnlyOnce {
             first = NOBODY;
             int best = -1;
             for (int helper = 0; helper < MOST_PEOPLE; helper++) {
-                int sum = sumWith(this, 0, helper, may);
+                int sum = sumWith(0, helper, may);
                 if (sum > best) {
                     best = sum;
                     first = helper;
                 }
             }
-            int sum = sumFrom(this, 1, may);
-            if (sum > best) {
-                best = sum;
+            int sumWithNobody = sumFrom(1, may);
+            if (sumWithNobody > best) {
+                best = sumWithNobody;
                 first = NOBODY;
             }
             return best;
@@ -960,41 +971,50 @@ public final class HelpedOnlyOnce {
             }
         }
 
+        private int sumWith(int hand, int helper, long may) {
+            int at = hand * MOST_PEOPLE + helper;
+            boolean inRows = at >= 0 && at < goods.length && at < stillMay.length;
+            if (!inRows || (may & bitOf(hand, helper)) == 0) {
+                return -1;
+            }
+            return goods[at] + sumFrom(hand + 1, may & stillMay[at]);
+        }
+
+        private int sumFrom(int hand, long may) {
+            if (hand >= hands || hand >= MOST_SEARCHED) {
+                return 0;
+            }
+            long left = may & bitsFrom(hand);
+            if (left == 0) {
+                return 0;
+            }
+            int slot = slotOf(left);
+            boolean inSlots = slot >= 0 && slot < slotKey.length && slot < slotSum.length;
+            if (inSlots && slotKey[slot] == left) {
+                return slotSum[slot];
+            }
+            int best = sumFrom(hand + 1, left);
+            for (int helper = 0; helper < MOST_PEOPLE; helper++) {
+                best = Math.max(best, sumWith(hand, helper, left));
+            }
+            if (inSlots) {
+                slotKey[slot] = left;
+                slotSum[slot] = best;
+            }
+            return best;
+        }
+
         static long bitOf(int hand, int helper) {
             return 1L << (hand * MOST_PEOPLE + helper);
         }
 
-        private static int sumWith(Search search, int hand, int helper, long may) {
-            int at = hand * MOST_PEOPLE + helper;
-            boolean inRows = at >= 0 && at < search.goods.length && at < search.stillMay.length;
-            if (!inRows || (may & bitOf(hand, helper)) == 0) {
-                return -1;
-            }
-            return search.goods[at] + sumFrom(search, hand + 1, may & search.stillMay[at]);
+        static long bitsFrom(int hand) {
+            return -bitOf(hand, 0);
         }
 
-        private static int sumFrom(Search search, int hand, long may) {
-            if (hand >= search.hands || hand >= MOST_SEARCHED) {
-                return 0;
-            }
-            long left = may & -bitOf(hand, 0);
-            if (left == 0) {
-                return 0;
-            }
-            int slot = (int) (left * 0x9E3779B97F4A7C15L >>> 64 - SLOT_BITS);
-            boolean inRows = slot >= 0 && slot < search.slotKey.length && slot < search.slotSum.length;
-            if (inRows && search.slotKey[slot] == left) {
-                return search.slotSum[slot];
-            }
-            int best = sumFrom(search, hand + 1, left);
-            for (int helper = 0; helper < MOST_PEOPLE; helper++) {
-                best = Math.max(best, sumWith(search, hand, helper, left));
-            }
-            if (inRows) {
-                search.slotKey[slot] = left;
-                search.slotSum[slot] = best;
-            }
-            return best;
+        // any slot would do; an odd factor spreads bits that lie close together over all slots
+        static int slotOf(long bits) {
+            return (int) ((bits * 0x9E3779B97F4A7C15L) >>> (64 - SLOT_BITS));
         }
     }
 
@@ -1036,7 +1056,7 @@ public final class HelpedOnlyOnce {
             return isDigit(place) ? letterAt(place) - '0' : 0;
         }
 
-        // of a text, what may follow the first letter of a STATEMENT: d stands for a digit
+        // d stands for a digit; a second digit of the PLACE decides which of two forms is to be kept
         String restOf(int place) {
             switch (letterAt(place)) {
                 case 'p':
@@ -1074,13 +1094,11 @@ public final class HelpedOnlyOnce {
 
         // how many STATEMENTS came, or the FAULT
         int tell(Town town) {
-            int place = 0;
             int statements = 0;
-            while (place < length && statements < MOST_LETTERS) {
+            for (int place = 0; place < length; place += 1 + restOf(place).length()) {
                 if (!tellStatement(town, place)) {
                     return FAULT_OF_STATEMENT - place;
                 }
-                place += 1 + restOf(place).length();
                 statements++;
             }
             return statements;
@@ -1116,7 +1134,7 @@ public final class HelpedOnlyOnce {
         boolean tellNeed(Town town, int place) {
             int hands = digit(place + 4);
             boolean known = town.hasPerson(digit(place + 1)) && digit(place + 2) < HELPS;
-            if (town.needs >= MOST_NEEDS || !known || digit(place + 3) < 1 || hands < 1 || hands > 3) {
+            if (town.needs >= MOST_NEEDS || !known || digit(place + 3) < 1 || hands < 1 || hands > MOST_HANDS) {
                 return false;
             }
             for (int what = WHO; what <= NEED_YEAR; what++) {
