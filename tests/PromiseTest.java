@@ -1,21 +1,7 @@
 /** For each promise of ../shared/DOC.md: ordinary calls, the edges that it names, and wrong ones. Worked out by hand. */
-public final class PromiseTest {
-    private static int passed = 0;
-    private static int failed = 0;
-    private static int promise = 0;
-
+public final class PromiseTest extends Check {
     // a grave NEED and a lighter one for whom only two can do anything: the better one is spent too early by SKILLED
     private static final String EARLY = "p00,0000;p00,2400;p00,1000;n00510;n01510;";
-    private static final int BOTH = 0;
-    private static final int ONE = 1;
-    private static final int YEARS = 2;
-    private static final int SMALL = 3;
-    private static final int NEAR = 0;
-    private static final int SKILLED = 1;
-    private static final int SPARE = 2;
-    private static final int KEEP = 3;
-    private static final int KIN = 4;
-    private static final int TOLD = 5;
 
     public static void main(String[] args) {
         newObject();
@@ -61,59 +47,11 @@ public final class PromiseTest {
         image();
         restore();
         count();
-        System.out.println("PromiseTest: " + passed + " passed, " + failed + " failed");
-        System.exit(failed == 0 ? 0 : 1);
-    }
-
-    private static void due(String call, int got, int want) {
-        if (got == want) {
-            passed++;
-            return;
-        }
-        failed++;
-        System.out.println("promise " + promise + ": " + call + " answered " + got + ", due is " + want);
-    }
-
-    private static int feedAll(HelpedOnlyOnce x, String text) {
-        for (int i = 0; i < text.length(); i++) {
-            x.feed(text.charAt(i));
-        }
-        return x.town();
-    }
-
-    // STATEMENTS are fed one by one, as a longer text would not fit
-    private static HelpedOnlyOnce told(String text) {
-        HelpedOnlyOnce x = new HelpedOnlyOnce();
-        tell(x, text);
-        return x;
-    }
-
-    private static void tell(HelpedOnlyOnce x, String text) {
-        int from = 0;
-        for (int i = 0; i < text.length(); i++) {
-            if (text.charAt(i) == ';') {
-                due("town of " + text.substring(from, i + 1), feedAll(x, text.substring(from, i + 1)), 1);
-                from = i + 1;
-            }
-        }
-    }
-
-    private static String times(String text, int n) {
-        StringBuilder all = new StringBuilder();
-        for (int i = 0; i < n; i++) {
-            all.append(text);
-        }
-        return all.toString();
-    }
-
-    private static void years(HelpedOnlyOnce x, int n) {
-        for (int i = 0; i < n; i++) {
-            x.year();
-        }
+        end("PromiseTest");
     }
 
     private static void newObject() {
-        promise = 1;
+        of("promise 1");
         HelpedOnlyOnce x = new HelpedOnlyOnce();
         for (int what = 0; what <= 7; what++) {
             due("count(" + what + ")", x.count(what), 0);
@@ -137,7 +75,7 @@ public final class PromiseTest {
     }
 
     private static void feed() {
-        promise = 2;
+        of("promise 2");
         HelpedOnlyOnce x = new HelpedOnlyOnce();
         due("feed(0)", x.feed(0), 1);
         due("feed(255)", x.feed(255), 2);
@@ -159,7 +97,7 @@ public final class PromiseTest {
     }
 
     private static void townSound() {
-        promise = 3;
+        of("promise 3");
         HelpedOnlyOnce x = new HelpedOnlyOnce();
         due("two of PEOPLE", feedAll(x, "p07,0123;p699,4567;"), 2);
         due("KIND", x.person(0, 0), 0);
@@ -196,7 +134,7 @@ public final class PromiseTest {
     }
 
     private static void townFaultOfLetter() {
-        promise = 3;
+        of("promise 3");
         String[] texts = {"", ";", "P01,1111;", "x", "p", "px", "p0", "p0,", "p01", "p01x", "p0100", "p012;", "p01,", "p01,1",
             "p01,11", "p01,111", "p01,1111", "p01,111;", "p01,11111", "p01,1111;p", "p01,1111;;", "n", "n0", "n00", "n001",
             "n0011", "n00110", "n0011;", "n001100", "n00110;n", "l", "l0", "l03", "l033", "l03;", "l0333", "l033;x",
@@ -219,7 +157,7 @@ public final class PromiseTest {
     }
 
     private static void townFaultOfStatement() {
-        promise = 3;
+        of("promise 3");
         String[] wrong = {"p71,1111;", "p91,1111;", "n10110;", "n04110;", "n00010;", "n00100;", "n00140;", "n90110;",
             "l400;", "l010;l001;", "l000;", "l910;"};
         int[] places = {0, 0, 0, 0, 0, 0, 0, 0, 0, 5, 0, 0};
@@ -245,7 +183,7 @@ public final class PromiseTest {
     }
 
     private static void person() {
-        promise = 4;
+        of("promise 4");
         HelpedOnlyOnce x = told("p542,9876;p01,0000;");
         int[] want = {5, 42, 9, 8, 7, 6};
         for (int what = 0; what < want.length; what++) {
@@ -264,7 +202,7 @@ public final class PromiseTest {
     }
 
     private static void need() {
-        promise = 5;
+        of("promise 5");
         HelpedOnlyOnce x = told("p01,1111;p01,1111;p01,1111;n13520;n00119;");
         int[] want = {1, 3, 5, 2, 0, 0};
         for (int what = 0; what < want.length; what++) {
@@ -286,7 +224,7 @@ public final class PromiseTest {
     }
 
     private static void set() {
-        promise = 6;
+        of("promise 6");
         HelpedOnlyOnce x = new HelpedOnlyOnce();
         int[] first = {0, 3, 3, 0};
         int[] least = {0, 1, 0, 0};
@@ -309,7 +247,7 @@ public final class PromiseTest {
     }
 
     private static void minutes() {
-        promise = 7;
+        of("promise 7");
         HelpedOnlyOnce x = told("p010,1111;p499,1111;");
         due("minutes(0, 1)", x.minutes(0, 1), 89);
         due("minutes(1, 0)", x.minutes(1, 0), 89);
@@ -321,7 +259,7 @@ public final class PromiseTest {
     }
 
     private static void spent() {
-        promise = 8;
+        of("promise 8");
         HelpedOnlyOnce x = told("p01,1111;p01,1111;p41,1111;n00110;n10110;n20110;");
         due("spent(1, 0) with no book", x.spent(1, 0), 0);
         x.help(1, 0);
@@ -347,7 +285,7 @@ public final class PromiseTest {
     }
 
     private static void spentByYears() {
-        promise = 8;
+        of("promise 8");
         HelpedOnlyOnce x = told("p01,1111;p01,1111;l223;n00111;");
         x.year();
         due("help in YEAR 1", x.help(1, 0), 1);
@@ -366,7 +304,7 @@ public final class PromiseTest {
     }
 
     private static void spentBySize() {
-        promise = 8;
+        of("promise 8");
         HelpedOnlyOnce x = told("p01,1111;p01,1111;l330;n00410;");
         x.help(1, 0);
         for (int size = 0; size <= 9; size++) {
@@ -379,7 +317,7 @@ public final class PromiseTest {
     }
 
     private static void may() {
-        promise = 9;
+        of("promise 9");
         HelpedOnlyOnce x = told("p050,1111;p670,1111;p671,1111;p629,1111;p499,1111;n10110;n40110;");
         due("may(0, 0)", x.may(0, 0), 0);
         due("may(0, 1)", x.may(0, 1), 1);
@@ -401,7 +339,7 @@ public final class PromiseTest {
     }
 
     private static void good() {
-        promise = 10;
+        of("promise 10");
         HelpedOnlyOnce x = told("p00,3700;p125,3700;p225,3700;p325,3700;p425,3700;p525,3700;p625,3700;"
             + "n00910;n01110;n00110;n02919;n00510;");
         int[][] want = {
@@ -432,7 +370,7 @@ public final class PromiseTest {
     }
 
     private static void help() {
-        promise = 11;
+        of("promise 11");
         HelpedOnlyOnce x = told("p00,1111;p00,2222;p430,3333;p650,9999;p00,4444;n00520;n00111;n20110;n00310;n10130;");
         due("one helps itself", x.help(0, 0), -3);
         due("help(1, 0)", x.help(1, 0), 10);
@@ -460,7 +398,7 @@ public final class PromiseTest {
     }
 
     private static void back() {
-        promise = 12;
+        of("promise 12");
         HelpedOnlyOnce x = told("p00,1111;p00,2222;p40,3333;n00520;n10110;");
         due("back() of nothing", x.back(), -3);
         x.help(1, 0);
@@ -481,7 +419,7 @@ public final class PromiseTest {
     }
 
     private static void year() {
-        promise = 13;
+        of("promise 13");
         HelpedOnlyOnce x = told("p00,1111;p00,1111;n00111;n00110;");
         due("count(3)", x.count(3), 1);
         due("year()", x.year(), 1);
@@ -496,7 +434,7 @@ public final class PromiseTest {
     }
 
     private static void chosen() {
-        promise = 14;
+        of("promise 14");
         HelpedOnlyOnce x = told("p040,9999;p010,5900;p020,4000;p060,4100;p499,3000;n00210;n00111;");
         due("NEAR, of several the least", x.chosen(NEAR, 0), 2);
         due("SKILLED, of several the least", x.chosen(SKILLED, 0), 1);
@@ -522,7 +460,7 @@ public final class PromiseTest {
     }
 
     private static void chosenByLoss() {
-        promise = 14;
+        of("promise 14");
         // GOOD for NEED 0: 1 has 8, 2 has 6, 3 has 0, 4 has 2; LOSS: 1 has 9, 2 has 5, 3 has 0, 4 has 2
         HelpedOnlyOnce x = told("p00,0000;p00,4900;p00,3500;p00,0000;p00,1200;n00210;n01111;");
         due("SPARE", x.chosen(SPARE, 0), 3);
@@ -537,7 +475,7 @@ public final class PromiseTest {
     }
 
     private static void chosenByNumbers() {
-        promise = 14;
+        of("promise 14");
         HelpedOnlyOnce x = told("p00,1111;p010,1111;p010,1111;p010,1111;p02,1111;n20110;n00110;n40110;");
         due("NEAR", x.chosen(NEAR, 0), 1);
         due("KIN leaves out 1 and 3", x.chosen(KIN, 0), 4);
@@ -559,7 +497,7 @@ public final class PromiseTest {
     }
 
     private static void loss() {
-        promise = 15;
+        of("promise 15");
         HelpedOnlyOnce x = told("p00,1111;p130,5900;n00910;n00210;n01119;n10910;n00119;");
         due("loss(1, 0)", x.loss(1, 0), 14);
         due("loss(1, 1)", x.loss(1, 1), 6);
@@ -582,7 +520,7 @@ public final class PromiseTest {
     }
 
     private static void run() {
-        promise = 16;
+        of("promise 16");
         HelpedOnlyOnce x = told(EARLY);
         due("run(NEAR)", x.run(NEAR), 10);
         due("run(SKILLED)", x.run(SKILLED), 10);
@@ -617,7 +555,7 @@ public final class PromiseTest {
     }
 
     private static void without() {
-        promise = 17;
+        of("promise 17");
         HelpedOnlyOnce x = told(EARLY);
         due("without(SKILLED)", x.without(SKILLED), 0);
         due("without(KIN)", x.without(KIN), 1);
@@ -643,7 +581,7 @@ public final class PromiseTest {
     }
 
     private static void most() {
-        promise = 18;
+        of("promise 18");
         HelpedOnlyOnce x = told(EARLY);
         due("most()", x.most(), 25);
         x.help(1, 0);
@@ -676,7 +614,7 @@ public final class PromiseTest {
     }
 
     private static void mostRefused() {
-        promise = 18;
+        of("promise 18");
         HelpedOnlyOnce x = told("p00,1111;p40,1111;" + times("n00111;", 8));
         due("8 NEEDS", x.most(), 8);
         tell(x, "n00110;");
@@ -696,7 +634,7 @@ public final class PromiseTest {
     }
 
     private static void first() {
-        promise = 19;
+        of("promise 19");
         due("of nothing", new HelpedOnlyOnce().first(), -9);
         HelpedOnlyOnce x = told(EARLY);
         due("first()", x.first(), 2);
@@ -716,7 +654,7 @@ public final class PromiseTest {
     }
 
     private static void gap() {
-        promise = 20;
+        of("promise 20");
         HelpedOnlyOnce x = told(EARLY);
         due("gap(NEAR)", x.gap(NEAR), 15);
         due("gap(SKILLED)", x.gap(SKILLED), 15);
@@ -733,7 +671,7 @@ public final class PromiseTest {
     }
 
     private static void worth() {
-        promise = 21;
+        of("promise 21");
         HelpedOnlyOnce x = told(EARLY);
         due("worth(1, 0)", x.worth(1, 0), 20);
         due("worth(2, 0)", x.worth(2, 0), 5);
@@ -764,7 +702,7 @@ public final class PromiseTest {
     }
 
     private static void keeps() {
-        promise = 22;
+        of("promise 22");
         HelpedOnlyOnce x = told(EARLY);
         due("keeps(0)", x.keeps(0), 1);
         due("keeps(1)", x.keeps(1), 0);
@@ -784,7 +722,7 @@ public final class PromiseTest {
     }
 
     private static void lasts() {
-        promise = 23;
+        of("promise 23");
         due("nobody", new HelpedOnlyOnce().lasts(0, 0), -3);
         HelpedOnlyOnce x = told("p00,0001;p00,0001;n00110;");
         due("two by BOTH", x.lasts(NEAR, 0), 0);
@@ -835,7 +773,7 @@ public final class PromiseTest {
     }
 
     private static void many() {
-        promise = 24;
+        of("promise 24");
         HelpedOnlyOnce x = new HelpedOnlyOnce();
         due("BOTH", x.many(0, 1), 3);
         due("ONE", x.many(1, 1), 2);
@@ -853,7 +791,7 @@ public final class PromiseTest {
     }
 
     private static void move() {
-        promise = 25;
+        of("promise 25");
         HelpedOnlyOnce x = told("p050,1111;p01,1111;");
         due("move(0, 99)", x.move(0, 99), 50);
         due("PLACE", x.person(0, 1), 99);
@@ -871,7 +809,7 @@ public final class PromiseTest {
     }
 
     private static void bestPlace() {
-        promise = 26;
+        of("promise 26");
         HelpedOnlyOnce x = told("p035,0000;p09,9000;n00910;");
         due("of 30 and 40 the least", x.bestPlace(1), 30);
         due("of WHO", x.bestPlace(0), 0);
@@ -893,7 +831,7 @@ public final class PromiseTest {
     }
 
     private static void strangers() {
-        promise = 27;
+        of("promise 27");
         HelpedOnlyOnce x = told("p00,0000;p00,2000;n00530;n00211;");
         due("none", x.strangers(SKILLED), 10);
         x.set(3, 1);
@@ -913,7 +851,7 @@ public final class PromiseTest {
     }
 
     private static void smallest() {
-        promise = 28;
+        of("promise 28");
         HelpedOnlyOnce x = told("p00,0000;p00,1000;n00210;n00910;");
         due("above GRAVE 2", x.smallest(), 3);
         due("LAW as it was", x.count(7), 0);
@@ -927,7 +865,7 @@ public final class PromiseTest {
     }
 
     private static void byLaw() {
-        promise = 29;
+        of("promise 29");
         HelpedOnlyOnce x = told("p00,1000;p00,1000;n00210;n10310;n00412;");
         due("BOTH", x.byLaw(BOTH, NEAR), 2);
         due("ONE", x.byLaw(ONE, NEAR), 5);
@@ -947,7 +885,7 @@ public final class PromiseTest {
     }
 
     private static void seeds() {
-        promise = 30;
+        of("promise 30");
         // DRAWS of seed 1: 16838 5758 10113, 17515 31051 5627, 23010 7419 16212
         HelpedOnlyOnce x = told("p00,1234;p00,1234;n00910;");
         due("BOTH", x.seeds(NEAR, 1, 1), 21);
@@ -990,7 +928,7 @@ public final class PromiseTest {
     }
 
     private static void row() {
-        promise = 31;
+        of("promise 31");
         HelpedOnlyOnce x = told("p00,1111;p00,1111;");
         due("row(2)", x.row(2), -1);
         due("row(-1)", x.row(-1), -1);
@@ -1004,17 +942,8 @@ public final class PromiseTest {
         due("count(16)", x.count(16), 1);
     }
 
-    private static int judged(HelpedOnlyOnce x, int... people) {
-        for (int one : people) {
-            x.row(one);
-        }
-        int judged = x.judge();
-        due("the ROW has none then", x.count(6), 0);
-        return judged;
-    }
-
     private static void judge() {
-        promise = 32;
+        of("promise 32");
         due("nothing at all", judged(new HelpedOnlyOnce()), -9);
         HelpedOnlyOnce x = told("p00,1111;p00,1111;p00,1111;p430,1111;n00120;n00111;n10120;n30110;");
         due("all MAY", judged(x, 1, 2, 2, 3, 0), -9);
@@ -1045,7 +974,7 @@ public final class PromiseTest {
     }
 
     private static void clear() {
-        promise = 33;
+        of("promise 33");
         HelpedOnlyOnce x = told("p00,1111;p00,1111;n00110;");
         due("clear() of nothing", x.clear(), 0);
         x.row(1);
@@ -1058,7 +987,7 @@ public final class PromiseTest {
     }
 
     private static void image() {
-        promise = 34;
+        of("promise 34");
         HelpedOnlyOnce x = told(EARLY);
         due("image()", x.image(), 0);
         years(x, 7);
@@ -1069,7 +998,7 @@ public final class PromiseTest {
     }
 
     private static void restore() {
-        promise = 35;
+        of("promise 35");
         HelpedOnlyOnce x = told("p01,1111;p02,1111;l245;n00120;");
         due("there is none", x.restore(), -3);
         x.set(3, 6);
@@ -1111,7 +1040,7 @@ public final class PromiseTest {
     }
 
     private static void count() {
-        promise = 36;
+        of("promise 36");
         HelpedOnlyOnce x = told("p00,1111;p00,1111;p00,1111;l310;n00110;n00120;n00111;n20110;");
         x.help(1, 0);
         x.help(2, 1);
