@@ -722,13 +722,17 @@ public final class BoundaryCallsTest extends Check {
             due("back()", x.back(), left);
             due("not SPENT", x.spent(helpers[left], whos[left]), 0);
         }
+        int[] others = {6, 5, 4, 3, 2, 1, 5, 2, 3};
+        for (int i = 0; i < others.length; i++) {
+            due("others help", x.help(others[i], needs[i]), 1);
+        }
         due("restore()", x.restore(), 0);
         due("count(2)", x.count(2), 9);
         for (int i = 0; i < helpers.length; i++) {
             due("SPENT again", x.spent(helpers[i], whos[i]), 1);
             due("SPENT again, the other way", x.spent(whos[i], helpers[i]), 1);
         }
-        due("not SPENT as before", x.spent(2, 1), 0);
+        due("who helped behind the image", x.spent(2, 1) + x.spent(5, 1) + x.spent(3, 2), 0);
         for (int left = 8; left >= 0; left--) {
             due("back() again", x.back(), left);
             due("its NEED", x.need(needs[left], 5), ahead[left]);

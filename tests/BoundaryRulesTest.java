@@ -22,6 +22,7 @@ public final class BoundaryRulesTest extends Check {
         without();
         mostOfEightNeeds();
         mostOfEightHands();
+        mostOfAFullTown();
         mostOfEarlierYears();
         mostWithNobody();
         firstOfSeveral();
@@ -283,16 +284,19 @@ public final class BoundaryRulesTest extends Check {
     private static void runByTheWholeBook() {
         of("RUN (in mind, from now), by all the helps in the book");
         for (int others = 0; others <= 10; others++) {
-            HelpedOnlyOnce x = told("p00,0000;p40,1000;p00,1000;" + times("n00110;", 12));
-            for (int need = 0; need < others; need++) {
-                due("a GUEST", x.help(1, need), 1);
+            // two alike, as what was in mind before must not be what is found there
+            for (boolean done : new boolean[] {false, true}) {
+                HelpedOnlyOnce x = told("p00,0000;p40,1000;p00,1000;" + times("n00110;", 12));
+                for (int need = 0; need < others; need++) {
+                    due("a GUEST", x.help(1, need), 1);
+                }
+                if (done) {
+                    due("2 helps, the last in the book", x.help(2, others), 1);
+                }
+                due("KIN chooses 2 once", x.run(KIN), done ? 0 : 1);
+                due("HANDS left", x.without(KIN), 11 - others);
+                due("lasts by KIN", x.lasts(KIN, 0), 0);
             }
-            due("KIN chooses 2 once", x.run(KIN), 1);
-            due("HANDS left", x.without(KIN), 11 - others);
-            due("2 helps, the last in the book", x.help(2, others), 1);
-            due("KIN chooses nobody", x.run(KIN), 0);
-            due("HANDS left", x.without(KIN), 11 - others);
-            due("lasts by KIN", x.lasts(KIN, 0), 0);
         }
     }
 
@@ -384,6 +388,30 @@ public final class BoundaryRulesTest extends Check {
         y.help(3, 0);
         refusedForMany(y, false);
         due("3 NEEDS, one all done", y.most(), 6);
+    }
+
+    private static void mostOfAFullTown() {
+        of("MOST: the greatest sum of GOODS (8 NEEDS at most ..; at most 8 HANDS left in all), PEOPLE 0 .. 6");
+        String people = "p00,0000;p00,1000;p00,2000;p00,3000;p00,4000;p00,5000;p00,6000;";
+        HelpedOnlyOnce up = told(people + "n00110;n00210;n00310;n00410;n00510;n00610;n00710;n00810;");
+        // each once: SKILLS 1 .. 6 for GRAVES 3 .. 8
+        due("GRAVES from the least", up.most(), 3 + 8 + 15 + 24 + 35 + 48);
+        due("nobody for the least", up.first(), -9);
+        // SKILLED takes 6 for GRAVE 1, 5 for 2, .. 1 for 6
+        due("SKILLED is behind", up.gap(SKILLED), 133 - (6 + 10 + 12 + 12 + 10 + 6));
+        due("without the least", up.worth(1, 0), 133 - (8 + 15 + 24 + 35 + 48));
+        due("without the greatest", up.worth(6, 0), 133 - (4 + 10 + 18 + 28 + 40));
+        due("keep the greatest", up.keeps(0), 6);
+        HelpedOnlyOnce down = told(people + "n00810;n00710;n00610;n00510;n00410;n00310;n00210;n00110;");
+        due("GRAVES from the greatest", down.most(), 133);
+        due("the greatest for the greatest", down.first(), 6);
+        due("SKILLED is not behind", down.gap(SKILLED), 0);
+        HelpedOnlyOnce hands = told(people + "n00130;n00930;n00520;");
+        // SKILLS 6 5 4 for GRAVE 9, 3 2 for 5, 1 for 1
+        due("8 HANDS of 3 NEEDS", hands.most(), 9 * 15 + 5 * 5 + 1);
+        due("the least first", hands.first(), 1);
+        tell(hands, "n00910;");
+        due("a ninth HAND", hands.most(), -6);
     }
 
     private static void mostOfEarlierYears() {

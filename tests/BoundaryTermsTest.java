@@ -430,6 +430,14 @@ public final class BoundaryTermsTest extends Check {
         due("GUEST for GUEST", x.help(0, 4), 0);
         due("GUEST back to GUEST", x.may(2, 0), 1);
         due("GUEST to itself", x.may(0, 0), 0);
+        for (int kind = 0; kind <= 6; kind++) {
+            HelpedOnlyOnce y = told("p00,0000;p" + kind + "0,0000;n00110;");
+            y.help(1, 0);
+            due("KIND " + kind + " SPENT", y.spent(1, 0), kind == 4 ? 0 : 1);
+            due("KIND " + kind + " MAY", y.may(1, 0), kind == 4 ? 1 : 0);
+            due("to KIND " + kind + " SPENT", y.spent(0, 1), 1);
+            due("to KIND " + kind + " MAY", y.may(0, 1), 0);
+        }
     }
 
     private static void mayOfShy() {
@@ -448,6 +456,11 @@ public final class BoundaryTermsTest extends Check {
         due("20 minutes", x.chosen(NEAR, 0), 0);
         due("a CHILD's half of 9 less 2", x.help(0, 0), 3);
         due("SPENT as others", x.may(0, 1), 0);
+        HelpedOnlyOnce all = told("p00,0000;p099,0000;p199,0000;p299,0000;p399,0000;p499,0000;p599,0000;");
+        for (int one = 1; one <= 6; one++) {
+            due("another KIND at 99 minutes", all.may(one, 0), 1);
+            due("to another KIND at 99 minutes", all.may(0, one), 1);
+        }
     }
 
     private static void openByYear() {
