@@ -303,7 +303,7 @@ public final class BoundaryRulesTest extends Check {
     private static void runByYears() {
         of("then YEAR is one more");
         for (int span = 1; span <= 9; span++) {
-            HelpedOnlyOnce x = told("p00,0000;p00,1000;l2" + span + "3;n00110;n00111;n00112;n00113;n00114;n00115;n00116;n00117;n00118;n00119;");
+            HelpedOnlyOnce x = told(EACH_YEAR.replace("p40", "p00") + "l2" + span + "3;");
             int helps = (9 + span) / span;
             due("run(NEAR) by SPAN " + span, x.run(NEAR), helps);
             due("without(NEAR) by SPAN " + span, x.without(NEAR), 10 - helps);
@@ -886,7 +886,7 @@ public final class BoundaryRulesTest extends Check {
     }
 
     private static void judgedAtTheEnds() {
-        of("JUDGED: the place of the first who MAY not; -9; where it ends, if it is too short; how many HANDS there are, if it is too long");
+        of("JUDGED: the place of the first who MAY not; -9; where it ends, if it is too short; how many HANDS, if it is too long");
         due("none for none", judged(new HelpedOnlyOnce()), -9);
         HelpedOnlyOnce x = told("p00,0000;p40,0000;p40,0000;n00120;n00110;n00112;");
         due("none for three", judged(x), 0);
