@@ -459,6 +459,7 @@ public final class DocumentTest extends Check {
         HelpedOnlyOnce y = told("p00,0000;p00,3000;p00,5000;n00130;n00410;");
         due("help(1, 0)", y.help(1, 0), 3);
         due("what is left", y.run(SKILLED), 5);
+        due("0 helps 1", told("p00,3000;p00,0000;n10210;").run(SKILLED), 6);
         says("WITHOUT: how many HANDS were left so (of all NEEDS of these YEARS).");
         due("one and one", y.without(SKILLED), 2);
         due("none of YEAR 1 and later", x.without(SKILLED), 0);
@@ -480,6 +481,11 @@ public final class DocumentTest extends Check {
         due("a ninth", needs.most(), -6);
         needs.year();
         due("two of later YEARS", needs.most(), 81);
+        HelpedOnlyOnce done = told("p00,0000;p40,2000;" + times("n00110;", 8));
+        due("a GUEST eight times", done.most(), 16);
+        tell(done, "n00110;");
+        done.help(1, 0);
+        due("8 HANDS left, of 9 NEEDS", done.most(), -6);
         HelpedOnlyOnce hands = told(times("p00,1000;", 4) + "n00130;n10130;n20120;");
         due("8 HANDS, 6 pairs", hands.most(), 6);
         tell(hands, "n30110;");
@@ -488,6 +494,7 @@ public final class DocumentTest extends Check {
         due("8 HANDS left", hands.most(), 5);
         says("who helps first (in the first such HAND) by the first of these ways (by who is least, nobody last).");
         due("2, so that 1 is left", told(EARLY).first(), 2);
+        due("0 for 1", told("p00,3000;p00,0000;p00,3000;n10210;").first(), 0);
         due("of two alike", told("p00,0000;p00,1000;p00,1000;n00510;").first(), 1);
         due("for nothing, but not nobody", told("p00,0000;p00,0000;n00510;").first(), 1);
         due("nobody, so that 1 is left", told("p00,0000;p00,1000;n00110;n00910;").first(), -9);
